@@ -1195,7 +1195,8 @@ public final class GangColumns {
             line.form(scene);
             beginPass(scene);
             Jobs jobs = scene.jobs;
-            int last = scene.inThought ? lastHopeful(scene) : line.size - 1;
+            int idle = scene.arms.idleColumns();
+            int last = scene.inThought ? lastHopeful(scene, idle) : line.size - 1;
             int begun = 0;
             int made = 0;
             int more = scene.rules[WINDOW];
@@ -1212,9 +1213,10 @@ public final class GangColumns {
                     more--;
                 }
                 gang.load(scene, job);
-                if (board.fits(gang, jobs.account[job], scene.now)) {
+                if (jobs.columns[job] <= idle && board.fits(gang, jobs.account[job], scene.now)) {
                     begin(scene, job, stuck);
                     begun++;
+                    idle -= jobs.columns[job];
                 } else {
                     stuck = true;
                     int reach = made < scene.rules[DEPTH] ? PROMISE_REACH : 0;
@@ -1251,8 +1253,7 @@ public final class GangColumns {
 
         // In thought nothing counts but what STARTS: behind the last job for which there are columns
         // enough, the PASS need not go on to make PROMISES.
-        private int lastHopeful(Scene scene) {
-            int idle = scene.arms.idleColumns();
+        private int lastHopeful(Scene scene, int idle) {
             for (int i = line.size - 1; i >= 0; i--) {
                 int job = line.order[i];
                 if (scene.jobs.columns[job] <= idle && !isOverLimit(scene, job)) {

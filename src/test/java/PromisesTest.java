@@ -1352,7 +1352,336 @@ public final class PromisesTest {
         due("count(8)", x.count(8), BAD);
     }
 
+    // ---- more of what may go wrong in the same promises
+
+    private static void limitCountsColumnZero() {
+        begin("3 limit: the first column counts, too, and what STARTED in this PASS");
+        x.limit(0, 2);
+        jobOf(0, "1x5");
+        x.step(1);
+        jobOf(0, "1x9");
+        jobOf(0, "1x9");
+        due("pass", x.pass(), 1);
+        due("of(2, 0)", x.of(2, 0), 0);
+        due("foretell(2)", x.foretell(2), 5);
+        x.limit(0, 0);
+        due("foretell(2): never", x.foretell(2), NOT);
+        begin("3 limit: in thought");
+        x.limit(0, 3);
+        jobOf(0, "2x20");
+        jobOf(0, "2x20");
+        jobOf(0, "1x20");
+        due("foretell(1)", x.foretell(1), 20);
+        due("foretell(2)", x.foretell(2), 0);
+    }
+
+    private static void spansBehindFreedOnes() {
+        begin("18 free: those behind it stay as they are");
+        due("keep", x.keep(3, 0, 10, 1), 0);
+        due("keep", x.keep(407, 2, 12, 2), 1);
+        due("keep", x.keep(811, 4, 14, -1), 2);
+        due("free(0)", x.free(0), 2);
+        due("keep over 1", x.keep(707, 11, 12, 0), STATE);
+        due("keep over 2", x.keep(808, 13, 14, 0), STATE);
+        due("keep behind 1", x.keep(407, 12, 13, 0), 3);
+        due("keep behind 2", x.keep(811, 14, 15, 0), 4);
+        due("earliest of account 1", earliest("16x3", 1), 15);
+        due("earliest of account 1", earliest("12x4", 1), 15);
+        due("earliest of account 2, whose own 1 is", earliest("12x4", 2), 0);
+        due("gap(4, 0, 1)", x.gap(4, 0, 1), 2);
+        due("gap(8, 0, 1)", x.gap(8, 0, 1), 4);
+        due("gap(0, 0, 1)", x.gap(0, 0, 1), NOT);
+        due("free(2)", x.free(2), 3);
+        due("gap(8, 0, 1)", x.gap(8, 0, 1), 14);
+        begin("19 step: spans end each at its tick");
+        x.keep(0, 0, 3, -1);
+        x.keep(101, 0, 2, -1);
+        x.keep(202, 0, 3, -1);
+        x.keep(303, 0, 4, -1);
+        int[] left = {4, 3, 1, 0, 0};
+        for (int t = 0; t < 5; t++) {
+            x.step(1);
+            due("count(3)", x.count(3), left[t]);
+        }
+    }
+
+    private static void promisesOfTheFirstJob() {
+        begin("22 promised: of JOB 0, just its columns, and at the very next tick");
+        x.keep(15, 0, 1, -1);
+        job("3x4,5x2");
+        x.pass();
+        due("of(0, 9)", x.of(0, 9), 1);
+        due("count(6)", x.count(6), 1);
+        due("promised(7, 1)", x.promised(7, 1), 0);
+        due("promised(8, 1)", x.promised(8, 1), NOT);
+        due("promised(7, 4)", x.promised(7, 4), 0);
+        due("promised(4, 2)", x.promised(4, 2), 0);
+        due("promised(4, 3)", x.promised(4, 3), NOT);
+        due("promised(7, 5)", x.promised(7, 5), NOT);
+        due("gap(4, 0, 0)", x.gap(4, 0, 0), 3);
+        due("gap(5, 0, 0)", x.gap(5, 0, 0), 5);
+        due("holes(1, 1, 1)", x.holes(1, 1, 1), 8);
+        due("earliest", earliest("9x1", 0), 5);
+        due("earliest", earliest("8x1,5x1", 0), 3);
+    }
+
+    private static void lastJobOfFourArms() {
+        begin("the 80th JOB, of four ARMS");
+        for (int i = 0; i < 79; i++) {
+            x.hold(job("1x9"), 1);
+        }
+        x.keep(15, 0, 1, -1);
+        job("4x1,1x2,4x3,2x4", 3, 9, 100, -1);
+        x.pass();
+        due("of(79, 9)", x.of(79, 9), 1);
+        due("promised(9, 1)", x.promised(9, 1), 79);
+        due("promised(10, 4)", x.promised(10, 4), NOT);
+        due("holes(1, 1, 0)", x.holes(1, 1, 0), 5);
+        x.step(3);
+        due("of(79, 6)", x.of(79, 6), 1);
+        due("count(4)", x.count(4), 6);
+        due("off(79)", x.off(79), 1);
+        due("count(4)", x.count(4), 0);
+        int[] ends = {2, 3, 3, 3};
+        for (int a = 0; a < 4; a++) {
+            due("its END", x.arm(79, a, 4), ends[a]);
+        }
+        due("arm(79, 4, 0)", x.arm(79, 4, 0), BAD);
+        due("of(78, 0)", x.of(78, 0), 0);
+    }
+
+    private static void allThatBlocks() {
+        begin("20 pass: 12 spans, 3 PROMISES of four ARMS and ARMS that run, all in the way of the last one");
+        x.rule(0, 4);
+        for (int i = 0; i < 12; i++) {
+            x.keep(1515, 100 + 2 * i, 101 + 2 * i, -1);
+        }
+        jobOf(0, "1x4,1x4,1x4,1x4");
+        jobOf(1, "1x4,1x4,1x4,1x4");
+        jobOf(2, "1x4,1x4,1x4,1x4");
+        due("pass", x.pass(), 3);
+        jobOf(3, "2x9,2x9,2x9,1x9");
+        jobOf(4, "2x9,2x9,2x9,1x9");
+        jobOf(5, "2x9,2x9,2x9,1x9");
+        jobOf(6, "9x99");
+        due("pass", x.pass(), 0);
+        int[] want = {4, 4, 13, 22};
+        for (int j = 3; j < 7; j++) {
+            due("of(" + j + ", 9)", x.of(j, 9), want[j - 3]);
+        }
+        due("count(6)", x.count(6), 4);
+        due("earliest, beside all", earliest("2x90", 7), 0);
+        due("earliest, beside two", earliest("6x90", 7), 13);
+        due("earliest, behind all", earliest("7x90", 7), 121);
+        due("gap(15, 1, 0)", x.gap(15, 1, 0), 101);
+    }
+
+    private static void idleColumns() {
+        begin("34 led: IDLE");
+        x.step(2);
+        due("led(6)", x.led(6), 32);
+        job("5x2,3x1");
+        x.step(3);
+        due("led(6)", x.led(6), 32 + 8 + 11 + 16);
+    }
+
+    private static void thoughtsLastAsAsked() {
+        begin("23 foretell: those that START in thought last as long as they ask, too");
+        job("16x10", 0, 5, 50, -1);
+        job("16x20", 1, 5, 10, 0);
+        job("16x20", 2, 5, 10, 1);
+        due("foretell(1)", x.foretell(1), 10);
+        due("foretell(2)", x.foretell(2), 30);
+        due("plan(2)", x.plan(2), 2);
+        due("byRule greatest", x.byRule(0, 1, 2), 30);
+        x.step(5);
+        due("of(0, 0): it ended at 5", x.of(0, 0), 2);
+        due("foretell(2)", x.foretell(2), 25);
+    }
+
+    private static void costsOfOrderedArms() {
+        begin("31, 32 costs and earliest: the widest first");
+        // free for 5 at 0: 0-1, 3-5; in the order told 2 wide takes 0-1 in any case, 1 wide first would not let it
+        x.keep(202, 0, 30, -1);
+        x.keep(615, 0, 30, -1);
+        due("earliest", earliest("1x5,2x5,2x5", 0), 0);
+        due("costs 0", costs("1x5,2x5,2x5", 0, 5, 0), 0);
+        due("earliest the other way", earliest("2x5,2x5,1x5", 0), 0);
+        begin("31 costs: one that STARTS just with it, or just without it, does not count");
+        x.keep(15, 290, 600, -1);
+        job("16x200");
+        jobOf(1, "16x80", 4);
+        x.pass();
+        due("costs 1", costs("16x20", 2, 9, 1), 0);
+        due("foretell(1)", x.foretell(1), 200);
+        due("costs 1, still in these TICKS", costs("16x5", 2, 9, 1), 5);
+    }
+
+    private static int jobOf(int account, String text, int rank) {
+        return job(text, account, rank, 100, -1);
+    }
+
+    private static void movesInOrder() {
+        begin("27 moves: PROMISES of others as they are");
+        job("8x9");
+        job("16x5");
+        x.step(1);
+        job("8x8");
+        job("8x9");
+        due("moves(2)", x.moves(2), 0);
+        due("moves(3): a PROMISE at 9 is in the way", x.moves(3), NOT);
+        due("moves(1): its own one is not", x.moves(1), NOT);
+        x.off(1);
+        due("moves(3)", x.moves(3), 0);
+        begin("27 moves: two");
+        job("2x9");
+        job("2x50");
+        job("2x9");
+        job("2x50");
+        job("3x9");
+        job("5x50");
+        x.step(9);
+        // held: 2-3, 6-7, 11-15; free: 0-1, 4-5, 8-10
+        job("7x5");
+        job("6x5");
+        job("5x5");
+        job("8x5");
+        due("moves(8): of 5-wide in 8-10: 6-7 moves to 0-1 or 4-5", x.moves(8), 1);
+        due("moves(7): 4-10 without 6-7", x.moves(7), 1);
+        due("moves(6): so, too", x.moves(6), 1);
+        due("moves(9): 0-10 without both leaves 8-10 for just one", x.moves(9), NOT);
+        x.off(5);
+        jobOf(6, "12x5");
+        due("moves(10): 4-15 without 6-7, which moves to 0-1", x.moves(10), 1);
+        begin("27 moves: two, to the runs that are left");
+        job("3x9");
+        job("1x50");
+        job("3x9");
+        job("1x50");
+        job("3x9");
+        job("1x50");
+        x.step(9);
+        // held: 3, 7, 11
+        String[] wide = {"4x5", "5x5", "7x5", "8x5", "9x5", "12x5", "13x5"};
+        int[] want = {0, 1, 1, 1, 2, 2, NOT};
+        for (int i = 0; i < 7; i++) {
+            int j = job(wide[i]);
+            due("moves of " + wide[i], x.moves(j), want[i]);
+            x.off(j);
+        }
+        dueTwoMoves("the widest moves first", "2x50", 2, "3x50", 1, "4x9", 2);
+        dueTwoMoves("of like ones the lesser JOB", "2x50", 1, "2x50", 2, "5x9", 2);
+        dueTwoMoves("of like ones the lesser JOB, that takes the place of the other", "2x50", 2, "2x50", 1, "5x9", NOT);
+    }
+
+    /** Behind a move of both to let 9 columns be taken 9-11 is left, and 12-15 for account 2 alone. */
+    private static void dueTwoMoves(String about, String one, int account, String other, int itsAccount, String last,
+            int want) {
+        begin("27 moves: " + about);
+        x.keep(1215, 0, 100, 2);
+        jobOf(0, "3x9");
+        jobOf(account, one);
+        jobOf(itsAccount, other);
+        jobOf(4, last);
+        x.step(9);
+        jobOf(3, "9x5");
+        due("moves(4)", x.moves(4), want);
+        due("holder(3)", x.holder(3), 1);
+        due("holder(5)", x.holder(5), 2);
+    }
+
+    private static void imagesOfAllRows() {
+        begin("39 back: rows of JOBS, ARMS, spans");
+        x.keep(15, 0, 1, -1);
+        job("8x6");
+        x.image();
+        x.pass();
+        due("of(0, 8)", x.of(0, 8), 1);
+        x.step(8);
+        due("of(0, 7)", x.of(0, 7), 7);
+        due("back", x.back(), 0);
+        int[] never = {6, 7, 8, 9};
+        for (int what : never) {
+            due("of(0, " + what + ")", x.of(0, what), NOT);
+        }
+        due("arm(0, 0, 3)", x.arm(0, 0, 3), NOT);
+        due("arm(0, 0, 4)", x.arm(0, 0, 4), NOT);
+        due("count(3)", x.count(3), 1);
+        begin("39 back: numbers of spans and where PROMISES are");
+        x.keep(0, 0, 9, -1);
+        x.keep(101, 0, 9, -1);
+        x.keep(202, 0, 2, -1);
+        x.free(0);
+        job("14x1");
+        x.pass();
+        due("of(0, 9)", x.of(0, 9), 2);
+        due("promised(2, 2)", x.promised(2, 2), 0);
+        x.image();
+        x.free(1);
+        x.pass();
+        due("promised(0, 2)", x.promised(0, 2), 0);
+        x.back();
+        due("promised(1, 2)", x.promised(1, 2), NOT);
+        due("promised(15, 2)", x.promised(15, 2), 0);
+        due("free(1)", x.free(1), 1);
+        due("free(2)", x.free(2), 0);
+        begin("39 back: EVENTS and CHART that were gone");
+        job("1x3");
+        x.step(5);
+        x.image();
+        for (int i = 0; i < 61; i++) {
+            jobOf(1, "2x1");
+        }
+        x.step(100);
+        x.back();
+        dueEvents(0, 0, 0, 0, 1, 0, 3, 2, 0);
+        int[] chart = {NOT, NOT, 0, 0, 0, NOT};
+        for (int back = 1; back <= 6; back++) {
+            due("chart(0, " + back + ")", x.chart(0, back), chart[back - 1]);
+        }
+        due("started(1)", x.started(1), NOT);
+        begin("39 back: a JOB that comes anew is not HELD BACK");
+        x.hold(job("1x1"), 1);
+        x.back();
+        job("1x1");
+        due("pass", x.pass(), 1);
+    }
+
+    private static void moreGaps() {
+        begin("29 gap: just what is on the column, whatever order it came in");
+        x.keep(505, 30, 40, 0);
+        x.keep(405, 10, 20, 1);
+        x.keep(506, 20, 30, -1);
+        x.keep(305, 2, 5, -1);
+        int[][] want = {{0, 2}, {5, 5}, {40, NOT}};
+        for (int i = 0; i < 3; i++) {
+            due("gap(5, " + i + ", 0)", x.gap(5, i, 0), want[i][0]);
+            due("gap(5, " + i + ", 1)", x.gap(5, i, 1), want[i][1]);
+        }
+        due("gap(6, 0, 1)", x.gap(6, 0, 1), 20);
+        due("gap(6, 1, 0)", x.gap(6, 1, 0), 30);
+        due("gap(4, 1, 1)", x.gap(4, 1, 1), 5);
+        due("gap(4, 2, 0)", x.gap(4, 2, 0), 20);
+        due("gap(3, 1, 0)", x.gap(3, 1, 0), 5);
+        due("gap(7, 0, 1)", x.gap(7, 0, 1), NOT);
+        job("6x2");
+        x.pass();
+        due("gap(5, 0, 0): it takes the shorter run at 6?", x.holder(6), NOT);
+        due("gap(5, 0, 0)", x.gap(5, 0, 0), 5);
+    }
+
     public static void main(String[] args) {
+        limitCountsColumnZero();
+        spansBehindFreedOnes();
+        promisesOfTheFirstJob();
+        lastJobOfFourArms();
+        allThatBlocks();
+        idleColumns();
+        thoughtsLastAsAsked();
+        costsOfOrderedArms();
+        movesInOrder();
+        imagesOfAllRows();
+        moreGaps();
         newObject();
         weights();
         limits();
