@@ -1020,6 +1020,15 @@ public final class PromisesTest {
         due("orders(3, 20000)", x.orders(3, 20000), 1);
         due("orders(3, 20001)", x.orders(3, 20001), BAD);
         due("orders(3, -1)", x.orders(3, -1), BAD);
+        x.image();
+        x.hold(0, 1);
+        x.hold(2, 1);
+        x.hold(3, 1);
+        x.step(7);
+        due("orders(3, 20007) at 7", x.orders(3, 20007), 1);
+        due("orders(3, 20008) at 7", x.orders(3, 20008), BAD);
+        due("orders(3, 6) at 7", x.orders(3, 6), BAD);
+        x.back();
         due("orders(-1, 0)", x.orders(-1, 0), BAD);
         due("orders(4, 0)", x.orders(4, 0), BAD);
         // free: 0-1 till 5, 3-5
@@ -1497,6 +1506,11 @@ public final class PromisesTest {
         x.step(5);
         due("of(0, 0): it ended at 5", x.of(0, 0), 2);
         due("foretell(2)", x.foretell(2), 25);
+        begin("23 foretell: an ARM that runs on the first column alone");
+        job("1x10", 0, 5, 50, -1);
+        x.pass();
+        job("16x1");
+        due("foretell(1)", x.foretell(1), 10);
     }
 
     private static void costsOfOrderedArms() {
@@ -1515,6 +1529,24 @@ public final class PromisesTest {
         due("costs 1", costs("16x20", 2, 9, 1), 0);
         due("foretell(1)", x.foretell(1), 200);
         due("costs 1, still in these TICKS", costs("16x5", 2, 9, 1), 5);
+    }
+
+    private static void costsOfOneAheadOfOthers() {
+        begin("31 costs: one that STARTS just with it does not count");
+        job("16x10");
+        x.pass();
+        x.keep(15, 20, 400, -1);
+        jobOf(1, "16x10");
+        jobOf(2, "16x5");
+        due("foretell(1)", x.foretell(1), 10);
+        due("foretell(2): never", x.foretell(2), NOT);
+        // by the new one account 1 has used more than account 2, whose JOB then STARTS at 15
+        due("costs 0", costs("16x5", 1, 9, 0), 10);
+        due("costs 1", costs("16x5", 1, 9, 1), 0);
+        begin("31 costs: JOB 0 counts");
+        x.keep(15, 0, 3, -1);
+        job("16x4");
+        due("costs 1", costs("16x5", 1, 9, 1), 5);
     }
 
     private static int jobOf(int account, String text, int rank) {
@@ -1572,6 +1604,22 @@ public final class PromisesTest {
         dueTwoMoves("the widest moves first", "2x50", 2, "3x50", 1, "4x9", 2);
         dueTwoMoves("of like ones the lesser JOB", "2x50", 1, "2x50", 2, "5x9", 2);
         dueTwoMoves("of like ones the lesser JOB, that takes the place of the other", "2x50", 2, "2x50", 1, "5x9", NOT);
+    }
+
+    private static void movesByNumbers() {
+        begin("27 moves: of like ones the lesser JOB, though it stands behind the other");
+        x.keep(1215, 0, 100, 2);
+        jobOf(0, "3x9");
+        jobOf(4, "2x9");
+        jobOf(1, "2x50");
+        jobOf(5, "5x9");
+        x.step(9);
+        jobOf(2, "2x50");
+        x.pass();
+        due("holder(0)", x.holder(0), 4);
+        due("holder(5)", x.holder(5), 2);
+        jobOf(3, "9x5");
+        due("moves(5): 9-11 is left, 2 takes 9-10, 4 takes 11-12", x.moves(5), 2);
     }
 
     /** Behind a move of both to let 9 columns be taken 9-11 is left, and 12-15 for account 2 alone. */
@@ -1671,17 +1719,6 @@ public final class PromisesTest {
     }
 
     public static void main(String[] args) {
-        limitCountsColumnZero();
-        spansBehindFreedOnes();
-        promisesOfTheFirstJob();
-        lastJobOfFourArms();
-        allThatBlocks();
-        idleColumns();
-        thoughtsLastAsAsked();
-        costsOfOrderedArms();
-        movesInOrder();
-        imagesOfAllRows();
-        moreGaps();
         newObject();
         weights();
         limits();
@@ -1722,6 +1759,19 @@ public final class PromisesTest {
         startedJobs();
         images();
         counts();
+        limitCountsColumnZero();
+        spansBehindFreedOnes();
+        promisesOfTheFirstJob();
+        lastJobOfFourArms();
+        allThatBlocks();
+        idleColumns();
+        thoughtsLastAsAsked();
+        costsOfOrderedArms();
+        costsOfOneAheadOfOthers();
+        movesInOrder();
+        movesByNumbers();
+        imagesOfAllRows();
+        moreGaps();
         CHECKS.end();
     }
 }
