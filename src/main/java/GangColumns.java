@@ -366,7 +366,7 @@ public final class GangColumns {
         if (i < 0 || what < 0 || what > 2) {
             return BAD;
         }
-        return i < scene.book.eventsKept() ? scene.book.eventAt(i, what) : NOT;
+        return scene.book.eventAt(i, what);
     }
 
     public int started(int i) {
@@ -801,26 +801,27 @@ public final class GangColumns {
         int startedSize;
         final long[] figures = new long[LED_PASSES + 1];
         final int[] startedJobs = new int[JOBS];
-        private int eventsEver;
+        private int eventsKept;
+        private int nextEvent;
         private final int[] eventTick = new int[EVENTS];
         private final int[] eventKind = new int[EVENTS];
         private final int[] eventJob = new int[EVENTS];
         private final int[] chartRows = new int[CHARTED * COLUMNS];
 
         void note(int tick, int kind, int job) {
-            int at = eventsEver % EVENTS;
-            eventTick[at] = tick;
-            eventKind[at] = kind;
-            eventJob[at] = job;
-            eventsEver++;
+            eventTick[nextEvent] = tick;
+            eventKind[nextEvent] = kind;
+            eventJob[nextEvent] = job;
+            nextEvent = (nextEvent + 1) % EVENTS;
+            eventsKept = Math.min(eventsKept + 1, EVENTS);
         }
 
-        int eventsKept() {
-            return Math.min(eventsEver, EVENTS);
-        }
-
+        /** Of the i-th EVENT that is kept; NOT, if there are not as many. */
         int eventAt(int i, int what) {
-            int at = (eventsEver - eventsKept() + i) % EVENTS;
+            if (i >= eventsKept) {
+                return NOT;
+            }
+            int at = (nextEvent + EVENTS - eventsKept + i) % EVENTS;
             if (what == 0) {
                 return eventTick[at];
             }
@@ -844,7 +845,8 @@ public final class GangColumns {
 
         void copyFrom(Book other) {
             startedSize = other.startedSize;
-            eventsEver = other.eventsEver;
+            eventsKept = other.eventsKept;
+            nextEvent = other.nextEvent;
             System.arraycopy(other.figures, 0, figures, 0, figures.length);
             System.arraycopy(other.startedJobs, 0, startedJobs, 0, startedSize);
             System.arraycopy(other.eventTick, 0, eventTick, 0, EVENTS);
