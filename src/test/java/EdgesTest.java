@@ -194,13 +194,16 @@ public final class EdgesTest {
                 depth == 0 ? NOT : depth);
             p.due("promised(15, " + (50 + 2 * depth) + ")", p.x.promised(15, 50 + 2 * depth), NOT);
         }
-        Play p = begin("5 rule: one that finds no tick does not use up DEPTH");
-        p.job(0, "16x50");
+        Play p = begin("5 rule: one passed over, and one that finds no tick, do not use up DEPTH");
+        p.x.keep(0, 0, 25000, 3);
+        p.job(0, "15x50");
         p.job(1, "9x1,8x1");
         p.job(2, "16x2");
         p.job(3, "16x2");
-        p.x.pass();
-        p.dueAll("PROMISES", new long[] {p.x.of(1, 9), p.x.of(2, 9), p.x.of(3, 9)}, NOT, 50, NOT);
+        p.job(4, "15x2");
+        p.due("pass", p.x.pass(), 1);
+        p.dueAll("PROMISES", new long[] {p.x.of(1, 9), p.x.of(2, 9), p.x.of(3, 9), p.x.of(4, 9)}, NOT, NOT, 50, NOT);
+        p.due("count(6)", p.x.count(6), 1);
     }
 
     private static void windows() {
@@ -227,6 +230,21 @@ public final class EdgesTest {
             // 79 is the 78th one behind 1
             p.job(7, "1x1");
             p.due("pass", p.x.pass(), window - 76);
+        }
+        for (int window = 0; window <= 1; window++) {
+            Play p = begin("5 rule: who is passed over by LIMIT is not looked at, WINDOW " + window);
+            p.x.rule(1, window);
+            p.x.limit(5, 0);
+            p.job(0, "14x50");
+            p.job(5, "1x1");
+            p.job(1, "1x1");
+            p.job(2, "2x1");
+            p.job(5, "1x1");
+            p.job(3, "1x1");
+            // 1 is not the first that did not START, and 4 is not the first one behind 3, which is
+            p.due("pass", p.x.pass(), 2 + window);
+            p.dueAll("of(2, 0), of(5, 0)", new long[] {p.x.of(2, 0), p.x.of(5, 0)}, 1, window);
+            p.due("led(4)", p.x.led(4), window);
         }
         Play p = begin("5 rule: by WINDOW 0 those ahead of the first stuck one START");
         p.x.rule(1, 0);
@@ -461,6 +479,13 @@ public final class EdgesTest {
         q.x.pass();
         q.due("off(0), which runs", q.x.off(0), 80);
         q.due("the first of the latest events", q.x.event(0, 2), 20);
+        Play t = begin("9 off: who is OFF already is not OFF once more");
+        t.job("1x1", 0, 5, 100, -1);
+        t.job("1x1", 0, 5, 100, 0);
+        t.job("1x1", 0, 5, 100, 1);
+        t.job("1x1", 0, 5, 100, 0);
+        t.dueAll("off", new long[] {t.x.off(1), t.x.off(0), t.x.led(3)}, 2, 2, 4);
+        t.dueAll("its events", new long[] {t.x.event(6, 2), t.x.event(7, 2), t.x.event(8, 2)}, 0, 3, NOT);
         Play r = begin("9 off: behind one that is DONE they wait for none");
         r.job("1x1", 0, 5, 100, -1);
         r.job("1x1", 0, 5, 100, 0);
@@ -548,6 +573,20 @@ public final class EdgesTest {
         for (int i = 0; i < rows.length; i++) {
             p.due("of(" + i + ", 0)", p.x.of(i, 0), rows[i][3]);
             p.due("of(" + i + ", 7)", p.x.of(i, 7), Math.min(rows[i][0], rows[i][2]));
+        }
+    }
+
+    private static void cutByAnArm() {
+        String[] texts = {"2x10,1x1", "1x1,2x10", "1x1,2x10,1x1", "1x1,1x1,1x1"};
+        for (int i = 0; i < texts.length; i++) {
+            Play p = begin("11 arm: CUT if LASTS of any ARM is above its ASKS: " + texts[i]);
+            p.job(texts[i], 0, 5, 150, -1);
+            p.x.step(1);
+            p.due("of(0, 0) at 1", p.x.of(0, 0), i < 3 ? 1 : 2);
+            p.x.step(9);
+            p.due("of(0, 0) at 10", p.x.of(0, 0), i < 3 ? 3 : 2);
+            p.due("of(0, 7)", p.x.of(0, 7), i < 3 ? 10 : 1);
+            p.dueAll("led", new long[] {p.x.led(1), p.x.led(2)}, i < 3 ? 0 : 1, i < 3 ? 1 : 0);
         }
     }
 
@@ -917,6 +956,23 @@ public final class EdgesTest {
         }
     }
 
+    private static void whatRunsStays() {
+        Play p = begin("20 pass: no ARM is where one of a PASS before holds a COLUMN");
+        p.job(0, "4x9,3x9,2x3,1x9");
+        p.due("pass", p.x.pass(), 1);
+        p.job(1, "7x5");
+        p.job(2, "6x5");
+        p.due("pass", p.x.pass(), 1);
+        p.dueAll("holder", new long[] {p.x.holder(3), p.x.holder(6), p.x.holder(8), p.x.holder(9), p.x.holder(10),
+            p.x.holder(15)}, 0, 0, 0, 0, 2, 2);
+        p.due("of(1, 9): 9 is held till then", p.x.of(1, 9), 9);
+        p.x.step(3);
+        p.dueAll("2x3 let go", new long[] {p.x.holder(6), p.x.holder(7), p.x.holder(8), p.x.holder(9)}, 0, NOT, NOT, 0);
+        p.job(3, "2x9");
+        p.due("pass at 3: 0-6 are promised to 1 from 9 on", p.x.pass(), 1);
+        p.dueAll("holder", new long[] {p.x.holder(6), p.x.holder(7), p.x.holder(8), p.x.holder(9)}, 0, 3, 3, 0);
+    }
+
     private static void holdersAndPromises() {
         Play p = busy("21, 22 holder and promised: refused");
         int[] wrong = {-1, 16, MOST, LEAST};
@@ -968,6 +1024,7 @@ public final class EdgesTest {
         ofAndArms();
         firstPromises();
         lasts();
+        cutByAnArm();
         ends();
         endsOfFourArms();
         theLine();
@@ -983,6 +1040,7 @@ public final class EdgesTest {
         steps();
         passes();
         fits();
+        whatRunsStays();
         holdersAndPromises();
         CHECKS.end();
     }

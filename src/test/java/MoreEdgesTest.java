@@ -296,7 +296,69 @@ public final class MoreEdgesTest {
             q.x.together(2, 5), q.x.together(1, 5), q.x.together(1, 3)}, 3, 3, 3, 3, 2, 0);
     }
 
+    private static void promisesOfOthers() {
+        Play p = begin("26, 27, 28, 30, 32: the PROMISE of JOB 0 is in the way of others");
+        p.x.hold(p.job(0, "16x9"), 1);
+        p.job(1, "8x5");
+        p.x.pass();
+        p.x.hold(0, 0);
+        p.x.pass();
+        p.due("of(0, 9)", p.x.of(0, 9), 5);
+        p.job(2, "8x20");
+        p.job(3, "2x5");
+        p.dueAll("20 * 29 / 100 is 5", new long[] {p.x.shrunk(2), p.x.shrunk(3)}, 29, 100);
+        p.dueAll("moves", new long[] {p.x.moves(2), p.x.moves(3)}, NOT, 0);
+        p.dueAll("orders", new long[] {p.x.orders(2, 0), p.x.orders(2, 13), p.x.orders(2, 14), p.x.orders(3, 0)},
+            0, 0, 1, 1);
+        p.dueAll("together", new long[] {p.x.together(2, 3), p.x.together(3, 2)}, 0, 0);
+        p.due("earliest", p.earliest("8x20", 2), 14);
+        Play q = begin("26, 27, 28, 30, 32: a JOB's own PROMISE is not in its way, but in that of a like one");
+        q.job(0, "16x5");
+        q.job(1, "16x10");
+        q.job(2, "1x1,1x1");
+        q.x.pass();
+        q.x.off(0);
+        q.due("of(1, 9)", q.x.of(1, 9), 5);
+        q.dueAll("all find theirs at once", new long[] {q.x.shrunk(1), q.x.moves(1), q.x.orders(1, 0),
+            q.x.orders(1, 4), q.x.orders(1, 14)}, 100, 0, 1, 1, 1);
+        q.dueAll("orders of the other one", new long[] {q.x.orders(2, 4), q.x.orders(2, 5), q.x.orders(2, 14),
+            q.x.orders(2, 15)}, 2, 0, 0, 2);
+        q.dueAll("earliest", new long[] {q.earliest("16x10", 1), q.earliest("16x5", 1)}, 15, 0);
+    }
+
+    private static void movesOfLaterArms() {
+        Play p = begin("27 moves: each ARM of a JOB is there, unless it is moved");
+        p.job(0, "8x9,8x9");
+        p.x.pass();
+        p.due("moves of 8: nothing is left for the one that moves", p.x.moves(p.job(1, "8x5")), NOT);
+        p.due("shrunk of 8", p.x.shrunk(1), NOT);
+        Play q = begin("27 moves: the second ARM moves, or finds nothing");
+        q.job(0, "4x3,2x9");
+        q.x.step(3);
+        // 4 and 5 are held; without them 12 wide takes 0-11, so 2 wide moves to 12 and 13
+        q.due("moves of 12", q.x.moves(q.job(1, "12x5")), 1);
+        q.due("moves of 14", q.x.moves(q.job(2, "14x5")), 1);
+        q.due("moves of 15", q.x.moves(q.job(3, "15x5")), NOT);
+        q.due("moves of 10, which takes 6-15", q.x.moves(q.job(4, "10x5")), 0);
+    }
+
     // ---- 29, 30
+
+    private static void spansUnderWay() {
+        Play p = begin("29, 32, 33: a span that began ahead of NOW");
+        p.x.keep(707, 0, 10, 2);
+        p.x.keep(1515, 2, 20, -1);
+        p.x.step(3);
+        p.dueAll("gap(7)", new long[] {p.x.gap(7, 0, 0), p.x.gap(7, 0, 1), p.x.gap(7, 1, 0)}, 10, NOT, NOT);
+        p.dueAll("gap(15)", new long[] {p.x.gap(15, 0, 0), p.x.gap(15, 0, 1), p.x.gap(15, 1, 0)}, 20, NOT, NOT);
+        p.dueAll("holes", new long[] {p.x.holes(3, 1, 0), p.x.holes(3, 1, 1), p.x.holes(9, 1, 0), p.x.holes(10, 1, 0),
+            p.x.holes(10, 1, 1), p.x.holes(20, 1, 0)}, 14, 7, 14, 15, 15, 16);
+        p.dueAll("earliest", new long[] {p.earliest("16x1", 1), p.earliest("15x1", 1), p.earliest("15x1", 2),
+            p.earliest("8x1", 1)}, 20, 10, 3, 10);
+        p.refused("keep over it", () -> p.x.keep(7, 3, 4, 2), STATE);
+        p.x.keep(707, 10, 12, 4);
+        p.dueAll("gap(7) behind both", new long[] {p.x.gap(7, 0, 0), p.x.gap(7, 0, 1)}, 12, NOT);
+    }
 
     private static void gaps() {
         Play p = begin("29 gap: spans told the last first, one behind the other");
@@ -460,6 +522,13 @@ public final class MoreEdgesTest {
         q.dueAll("none", new long[] {q.x.led(0), q.x.led(4), q.x.led(5)}, 2, 1, 0);
         q.x.step(1);
         q.dueAll("1 waited 4, 3 so, too", new long[] {q.x.led(0), q.x.led(4), q.x.led(5)}, 4, 1, 8);
+        Play t = begin("34 led: ahead of one that did not START, though it has no PROMISE");
+        t.x.rule(0, 0);
+        t.job(0, "15x9");
+        t.job(1, "2x1");
+        t.job(2, "1x1");
+        t.x.pass();
+        t.dueAll("led", new long[] {t.x.led(0), t.x.led(4), t.x.count(6)}, 2, 1, 0);
         Play r = begin("34 led: none behind one passed over by LIMIT");
         r.x.limit(0, 1);
         r.job(0, "2x2");
@@ -716,6 +785,9 @@ public final class MoreEdgesTest {
         movesOfOne();
         movesAsLongAsKnown();
         together();
+        promisesOfOthers();
+        movesOfLaterArms();
+        spansUnderWay();
         gaps();
         orders();
         costs();
