@@ -971,6 +971,17 @@ public final class EdgesTest {
         p.job(3, "2x9");
         p.due("pass at 3: 0-6 are promised to 1 from 9 on", p.x.pass(), 1);
         p.dueAll("holder", new long[] {p.x.holder(6), p.x.holder(7), p.x.holder(8), p.x.holder(9)}, 0, 3, 3, 0);
+        Play q = begin("20 pass: nor where it would be just long enough");
+        q.job(0, "5x9,4x9,3x9,2x9");
+        q.x.pass();
+        for (int wide = 2; wide <= 5; wide++) {
+            q.job(wide, wide + "x1");
+        }
+        // 14 and 15 are left
+        q.due("pass", q.x.pass(), 1);
+        q.dueAll("holder", new long[] {q.x.holder(4), q.x.holder(8), q.x.holder(11), q.x.holder(13), q.x.holder(14)},
+            0, 0, 0, 0, 1);
+        q.dueAll("of(2, 9), of(3, 0), of(4, 0)", new long[] {q.x.of(2, 9), q.x.of(3, 0), q.x.of(4, 0)}, 9, 0, 0);
     }
 
     private static void holdersAndPromises() {
